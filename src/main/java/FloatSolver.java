@@ -144,7 +144,7 @@ public final class FloatSolver {
         if (!nodes.has(node)) {
             return NOTHING;
         }
-        spans.fill(ranges);
+        spans.fill(ranges, nodes.rests[node]);
         switch (what) {
             case 0:
                 return spans.some[node] ? 1 : 0;
@@ -163,7 +163,7 @@ public final class FloatSolver {
         if (!rules.has(rule)) {
             return NO_SUCH;
         }
-        spans.fill(ranges);
+        spans.fill(ranges, rules.restOn(rule, nodes));
         return rules.verdict(rule, spans);
     }
 
@@ -485,8 +485,11 @@ public final class FloatSolver {
         final int[] kind = new int[NODE_LIMIT];
         final int[] x = new int[NODE_LIMIT];
         final int[] y = new int[NODE_LIMIT];
-        final int[] uses = new int[NODE_LIMIT];
         final int[] values = new int[NODE_LIMIT];
+        /** A bit for each NODE that this one rests on, itself among them. */
+        final long[] rests = new long[NODE_LIMIT];
+        /** A bit for each NODE that rests on this VARIABLE. */
+        final long[] users = new long[VARIABLES];
         int count = 0;
 
         static boolean looksAtX(int kind) {
@@ -517,16 +520,22 @@ public final class FloatSolver {
             x[count] = newKind == CONSTANT && Floats.isNone(newX) ? NONE : newX;
             // A y that is not looked at may be any number; x in its place keeps every index good.
             y[count] = looksAtY(newKind) ? newY : newX;
-            uses[count] = variablesOf(count);
+            link(count);
             count++;
             return count - 1;
         }
 
-        private int variablesOf(int i) {
-            if (kind[i] == CONSTANT) {
-                return 0;
+        private void link(int i) {
+            long bit = 1L << i;
+            rests[i] = looksAtX(kind[i]) ? bit | rests[x[i]] | rests[y[i]] : bit;
+            if (kind[i] == VARIABLE) {
+                users[x[i]] |= bit;
             }
-            return kind[i] == VARIABLE ? 1 << x[i] : uses[x[i]] | uses[y[i]];
+            for (int v = 0; v < VARIABLES; v++) {
+                if ((users[v] & rests[i]) != 0) {
+                    users[v] |= bit;
+                }
+            }
         }
 
         void evaluate(int[] places) {
@@ -589,18 +598,20 @@ public final class FloatSolver {
         final int[] high = new int[NODE_LIMIT];
         private final Nodes nodes;
         private final Box box = new Box();
-        private int known = 0;
+        /** A bit for each NODE whose SPAN stands here as it is in the BOX. */
+        private long standing = 0;
 
         Spans(Nodes nodes) {
             this.nodes = nodes;
         }
 
-        /** Halving changes one VARIABLE mostly: a SPAN stays if no VARIABLE behind it has changed. */
-        void fill(Box wanted) {
-            int changed = box.follow(wanted);
+        /** Halving changes one VARIABLE mostly, so that most SPANS can stand from BOX to BOX. */
+        void fill(Box wanted, long needed) {
+            forget(box.follow(wanted));
+            long missing = needed & ~standing;
             for (int i = 0; i < nodes.count; i++) {
                 int kind = nodes.kind[i];
-                if (i < known && (nodes.uses[i] & changed) == 0) {
+                if ((missing & (1L << i)) == 0) {
                     continue;
                 }
                 if (kind == CONSTANT) {
@@ -619,7 +630,15 @@ public final class FloatSolver {
                     fillFromEnds(i, kind, nodes.x[i]);
                 }
             }
-            known = nodes.count;
+            standing |= missing;
+        }
+
+        private void forget(int changed) {
+            for (int v = 0; v < VARIABLES; v++) {
+                if ((changed & (1 << v)) != 0) {
+                    standing &= ~nodes.users[v];
+                }
+            }
         }
 
         private void put(int i, int newLow, int newHigh, boolean mayBeNone) {
@@ -740,6 +759,19 @@ public final class FloatSolver {
             int were = count;
             count = 0;
             return were;
+        }
+
+        /** A bit for each NODE that this RULE rests on. */
+        long restOn(int i, Nodes nodes) {
+            return nodes.rests[a[i]] | nodes.rests[b[i]];
+        }
+
+        long allRestOn(Nodes nodes) {
+            long all = 0;
+            for (int i = 0; i < count; i++) {
+                all |= restOn(i, nodes);
+            }
+            return all;
         }
 
         boolean isTrue(int i, int[] values) {
@@ -875,9 +907,10 @@ public final class FloatSolver {
 
         int run(int work) {
             start();
+            long needed = rules.allRestOn(nodes);
             for (int i = 0; i < work; i++) {
                 looked++;
-                spans.fill(box);
+                spans.fill(box, needed);
                 int verdict = rules.verdictOfAll(spans);
                 int wide = box.firstWide();
                 if (verdict == PERHAPS && wide == VARIABLES) {
