@@ -64,6 +64,7 @@ public final class FloatSolver {
     }
 
     public int node(int kind, int x, int y) {
+        // A kind that is none does not say what x and y would be: so they can not be missing ahead of it.
         if (kind < CONSTANT || kind > ROOT) {
             return OUTSIDE;
         }
@@ -275,7 +276,7 @@ public final class FloatSolver {
         private static final int HALF = 0x3f000000;
         private static final int ALWAYS_WHOLE = 0x4b000000;
         private static final int BEYOND_INT = 0x4f000000;
-        private static final int GUARD = 30;
+        private static final int FAR = 30;
         private static final int STEP = 38;
 
         static int ofOne(int kind, int x) {
@@ -334,23 +335,19 @@ public final class FloatSolver {
             int distance = Floats.exponent(x) - Floats.exponent(y);
             int big = distance >= 0 ? x : y;
             int small = distance >= 0 ? y : x;
-            long more = Floats.significand(big) << GUARD;
-            long less = shiftedDown(Floats.significand(small) << GUARD, Math.abs(distance));
+            int lift = Math.abs(distance);
+            if (lift > FAR) {
+                // The small one is far below half the step from the big one to its neighbours.
+                return big;
+            }
+            long more = Floats.significand(big) << lift;
+            long less = Floats.significand(small);
             long total = (big < 0 ? -more : more) + (small < 0 ? -less : less);
             if (total == 0) {
                 // Only two minus zeros come to minus zero; what cancels out has two signs.
                 return x & y & SIGN;
             }
-            return Floats.nearest(total < 0 ? SIGN : 0, Math.abs(total), Floats.exponent(big) - GUARD);
-        }
-
-        /** The lowest bit keeps that something was shifted out. */
-        private static long shiftedDown(long significand, int by) {
-            if (by > 62) {
-                return significand == 0 ? 0 : 1;
-            }
-            long kept = significand >> by;
-            return kept << by == significand ? kept : kept | 1;
+            return Floats.nearest(total < 0 ? SIGN : 0, Math.abs(total), Floats.exponent(small));
         }
 
         private static int product(int x, int y) {

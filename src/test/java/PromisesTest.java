@@ -393,6 +393,9 @@ public final class PromisesTest {
         dueSpan("11: the greater with what may be none", solver, greater, place(2f), HIGHEST, 1);
         dueSpan("11: 0 is among the ints of what may be none", solver, solver.node(13, greater, 0),
             0, place(0x1p31f), 0);
+        solver.range(3, place(-3f), place(-2f));
+        dueSpan("11: 0 is among the ints of what is below 0 or none", solver,
+            solver.node(13, solver.node(8, 3, all), 0), place(-0x1p31f), 0, 0);
         dueSpan("11: sign of what may be none", solver, solver.node(6, greater, 0), LOWEST, place(-2f), 1);
     }
 
