@@ -11,9 +11,18 @@ public final class ArithmeticTest {
         0x4f000001, 0x5f000000, 0x7e7fffff, 0x7e800000, 0x7effffff, 0x7f000000, 0x7f7ffffe, 0x7f7fffff,
         0x7f800000, 0x7f800001, 0x7fc00000, 0x7fffffff};
 
-    private final FloatSolver solver = new FloatSolver();
+    /** An object is good for 512 calls: 22 to begin with, and 22 for each pair of numbers. */
+    private static final int PAIRS = 22;
+
+    private FloatSolver solver;
+    private int pairs = PAIRS;
 
     private ArithmeticTest() {
+    }
+
+    private void begin() {
+        solver = new FloatSolver();
+        pairs = 0;
         solver.node(1, 0, 0);
         solver.node(1, 1, 0);
         for (int kind = 2; kind < 16; kind++) {
@@ -25,6 +34,10 @@ public final class ArithmeticTest {
     }
 
     private void compareAll(int x, int y) {
+        if (pairs == PAIRS) {
+            begin();
+        }
+        pairs++;
         String of = Integer.toHexString(x) + ", " + Integer.toHexString(y);
         DUE.is("set", solver.set(0, Machine.place(x)), 1);
         DUE.is("set", solver.set(1, Machine.place(y)), 1);

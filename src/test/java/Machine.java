@@ -39,6 +39,10 @@ final class Machine {
         return bits >= 0 ? bits : -1 - (bits & 0x7fffffff);
     }
 
+    static int placeOf(float number) {
+        return place(Float.floatToIntBits(number));
+    }
+
     static int bits(int place) {
         return place >= 0 ? place : (-1 - place) | 0x80000000;
     }

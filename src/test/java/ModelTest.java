@@ -4,6 +4,8 @@ import java.util.Random;
 public final class ModelTest {
     private static final Due DUE = new Due("ModelTest");
     private static final int LAST_CALL = 512;
+    /** solve() is asked together with all seven questions of solved(). */
+    private static final int CALLS_AT_ONCE = 8;
     private static final int[] EDGE_PLACES = {
         Model.LOWEST, Model.LOWEST + 1, -0x4f000001, -0x4b000001, -0x3f800001, -0x3f000001, -0x800001, -3, -2, -1,
         0, 1, 2, 0x800000, 0x3f000000, 0x3f800000, 0x3fc00000, 0x40000000, 0x40400000, 0x4b000000, 0x4f000000,
@@ -21,6 +23,12 @@ public final class ModelTest {
     private ModelTest(long seed) {
         random = new Random(seed);
         name = "run " + seed + ": ";
+    }
+
+    /** One call of the object, with what the Model has for it. */
+    private void due(String call, long got, long want) {
+        calls++;
+        DUE.is(name + call, got, want);
     }
 
     private int anyPlace() {
@@ -52,14 +60,14 @@ public final class ModelTest {
         int kind = index(16);
         int x = kind == 0 ? anyBits() : kind == 1 ? index(4) : index(model.nodes.size());
         int y = index(model.nodes.size());
-        DUE.is(name + "node(" + kind + ", " + x + ", " + y + ")", solver.node(kind, x, y), model.node(kind, x, y));
+        due("node(" + kind + ", " + x + ", " + y + ")", solver.node(kind, x, y), model.node(kind, x, y));
     }
 
     private void addRule() {
         int kind = index(6);
         int a = index(model.nodes.size());
         int b = index(model.nodes.size());
-        DUE.is(name + "rule(" + kind + ", " + a + ", " + b + ")", solver.rule(kind, a, b), model.rule(kind, a, b));
+        due("rule(" + kind + ", " + a + ", " + b + ")", solver.rule(kind, a, b), model.rule(kind, a, b));
     }
 
     private void changeRange() {
@@ -79,37 +87,37 @@ public final class ModelTest {
         if (random.nextInt(40) == 0) {
             high = Model.HIGHEST + 1 + random.nextInt(2);
         }
-        DUE.is(name + "range(" + v + ", " + low + ", " + high + ")",
+        due("range(" + v + ", " + low + ", " + high + ")",
             solver.range(v, low, high), model.range(v, low, high));
     }
 
     private void changeValue() {
         int v = index(4);
         int place = random.nextInt(20) == 0 ? random.nextInt() : anyPlace();
-        DUE.is(name + "set(" + v + ", " + place + ")", solver.set(v, place), model.set(v, place));
+        due("set(" + v + ", " + place + ")", solver.set(v, place), model.set(v, place));
     }
 
     private void compareValue() {
         int node = index(model.nodes.size());
-        DUE.is(name + "value(" + node + ")", solver.value(node), model.value(node));
+        due("value(" + node + ")", solver.value(node), model.value(node));
     }
 
     private void compareSpan() {
         int node = index(model.nodes.size());
         int what = index(4);
-        DUE.is(name + "span(" + node + ", " + what + ")", solver.span(node, what), model.span(node, what));
+        due("span(" + node + ", " + what + ")", solver.span(node, what), model.span(node, what));
     }
 
     private void compareRule() {
         int rule = index(model.rules.size());
-        DUE.is(name + "holds(" + rule + ")", solver.holds(rule), model.holds(rule));
-        DUE.is(name + "judge(" + rule + ")", solver.judge(rule), model.judge(rule));
+        due("holds(" + rule + ")", solver.holds(rule), model.holds(rule));
+        due("judge(" + rule + ")", solver.judge(rule), model.judge(rule));
     }
 
     private void compareSolve() {
         int w = random.nextInt(20) == 0 ? index(5001) : 1 + random.nextInt(1 << random.nextInt(11));
         int want = model.solve(w);
-        DUE.is(name + "solve(" + w + ")", solver.solve(w), want);
+        due("solve(" + w + ")", solver.solve(w), want);
         if (want >= 0) {
             SOLVED[want]++;
         }
@@ -119,7 +127,7 @@ public final class ModelTest {
     }
 
     private void compareSolved(int what) {
-        DUE.is(name + "solved(" + what + ")", solver.solved(what), model.solved(what));
+        due("solved(" + what + ")", solver.solved(what), model.solved(what));
     }
 
     private void compareWidth() {
@@ -132,18 +140,16 @@ public final class ModelTest {
         } catch (ArithmeticException e) {
             thrown = true;
         }
-        boolean due = n == 0 && v >= 0 && v < 4;
-        DUE.isTrue(name + "width(" + v + ", " + n + ") throws as it should", thrown == due);
-        if (!thrown && !due) {
-            DUE.is(name + "width(" + v + ", " + n + ")", got, model.width(v, n));
-        }
+        boolean throwing = n == 0 && v >= 0 && v < 4;
+        DUE.isTrue(name + "width(" + v + ", " + n + ") throws as it should", thrown == throwing);
+        due("width(" + v + ", " + n + ")", got, throwing ? got : model.width(v, n));
     }
 
     private void comparePlaces() {
         int bits = anyBits();
         int place = random.nextInt(4) == 0 ? random.nextInt() : anyPlace();
-        DUE.is(name + "place(" + bits + ")", solver.place(bits), model.place(bits));
-        DUE.is(name + "bits(" + place + ")", solver.bits(place), model.bits(place));
+        due("place(" + bits + ")", solver.place(bits), model.place(bits));
+        due("bits(" + place + ")", solver.bits(place), model.bits(place));
     }
 
     /** SPANS are there to hold all VALUES: also of the class itself, at a point of the BOX by chance. */
@@ -162,7 +168,6 @@ public final class ModelTest {
     }
 
     private void call() {
-        calls++;
         int which = random.nextInt(100);
         if (which < 14) {
             addNode();
@@ -187,7 +192,7 @@ public final class ModelTest {
         } else if (which < 94) {
             comparePlaces();
         } else if (which < 96) {
-            DUE.is(name + "noRules()", solver.noRules(), model.noRules());
+            due("noRules()", solver.noRules(), model.noRules());
         } else {
             checkSpansHoldValues();
         }
@@ -201,8 +206,8 @@ public final class ModelTest {
             int width = random.nextInt(1 << random.nextInt(random.nextInt(3) == 0 ? 31 : 6));
             int high = (int) Math.min(Model.HIGHEST, (long) low + width);
             hidden[v] = (int) (low + Math.floorMod(random.nextLong(), (long) high - low + 1));
-            DUE.is(name + "range", solver.range(v, low, high), model.range(v, low, high));
-            DUE.is(name + "node", solver.node(1, v, 0), model.node(1, v, 0));
+            due("range", solver.range(v, low, high), model.range(v, low, high));
+            due("node", solver.node(1, v, 0), model.node(1, v, 0));
         }
         for (int i = 4; i < 30; i++) {
             addNode();
@@ -214,7 +219,7 @@ public final class ModelTest {
         for (int i = 0; i < 5; i++) {
             compareSolve();
         }
-        DUE.is(name + "solve(5000)", solver.solve(5000), model.solve(5000));
+        due("solve(5000)", solver.solve(5000), model.solve(5000));
         for (int what = 0; what < 7; what++) {
             compareSolved(what);
         }
@@ -224,20 +229,20 @@ public final class ModelTest {
     private void addTrueRule(int[] values) {
         int node = random.nextInt(values.length);
         int constant = model.nodes.size();
-        DUE.is(name + "node", solver.node(0, values[node], 0), model.node(0, values[node], 0));
+        due("node", solver.node(0, values[node], 0), model.node(0, values[node], 0));
         if (Machine.isNone(values[node])) {
-            DUE.is(name + "rule", solver.rule(4, node, constant), model.rule(4, node, constant));
+            due("rule", solver.rule(4, node, constant), model.rule(4, node, constant));
         } else {
             int kind = 1 + random.nextInt(2);
             boolean turned = random.nextBoolean();
             int a = turned ? constant : node;
             int b = turned ? node : constant;
-            DUE.is(name + "rule", solver.rule(kind, a, b), model.rule(kind, a, b));
+            due("rule", solver.rule(kind, a, b), model.rule(kind, a, b));
         }
     }
 
     private void run() {
-        while (calls < LAST_CALL && !DUE.failed()) {
+        while (calls + CALLS_AT_ONCE <= LAST_CALL && !DUE.failed()) {
             call();
         }
     }

@@ -18,53 +18,7 @@ public final class PromisesTest {
     }
 
     private static int place(float number) {
-        return Machine.place(bits(number));
-    }
-
-    /** VARIABLES 0 to 3 as NODES 0 to 3. */
-    private static FloatSolver withVariables() {
-        FloatSolver solver = new FloatSolver();
-        for (int v = 0; v < 4; v++) {
-            solver.node(1, v, 0);
-        }
-        return solver;
-    }
-
-    private static int constant(FloatSolver solver, float number) {
-        return solver.node(0, bits(number), 0);
-    }
-
-    private static void dueSpan(String what, FloatSolver solver, int node, long low, long high, long none) {
-        DUE.is(what + ": numbers", solver.span(node, 0), 1);
-        DUE.is(what + ": low", solver.span(node, 1), low);
-        DUE.is(what + ": high", solver.span(node, 2), high);
-        DUE.is(what + ": none", solver.span(node, 3), none);
-    }
-
-    private static void dueAll(String what, FloatSolver solver, int node) {
-        dueSpan(what, solver, node, LOWEST, HIGHEST, 1);
-    }
-
-    private static void dueOnlyNone(String what, FloatSolver solver, int node) {
-        DUE.is(what + ": numbers", solver.span(node, 0), 0);
-        DUE.is(what + ": low", solver.span(node, 1), NOTHING);
-        DUE.is(what + ": high", solver.span(node, 2), NOTHING);
-        DUE.is(what + ": none", solver.span(node, 3), 1);
-    }
-
-    private static void dueSolved(String what, FloatSolver solver, long answer, long looked, long halved) {
-        DUE.is(what + ": solved(0)", solver.solved(0), answer);
-        DUE.is(what + ": solved(1)", solver.solved(1), looked);
-        DUE.is(what + ": solved(2)", solver.solved(2), halved);
-        for (int i = 3; i < 7 && answer != 1; i++) {
-            DUE.is(what + ": solved(" + i + ")", solver.solved(i), NOTHING);
-        }
-    }
-
-    private static void dueSolution(String what, FloatSolver solver, long... places) {
-        for (int v = 0; v < 4; v++) {
-            DUE.is(what + ": solved(" + (v + 3) + ")", solver.solved(v + 3), places[v]);
-        }
+        return Machine.placeOf(number);
     }
 
     private static void promise1NewObject() {
@@ -151,7 +105,7 @@ public final class PromisesTest {
     }
 
     private static void promise4NoRules() {
-        FloatSolver solver = withVariables();
+        FloatSolver solver = Solvers.withVariables();
         DUE.is("4: none", solver.noRules(), 0);
         solver.rule(0, 0, 0);
         solver.rule(9, 0, 0);
@@ -169,7 +123,7 @@ public final class PromisesTest {
     }
 
     private static void promise5Range() {
-        FloatSolver solver = withVariables();
+        FloatSolver solver = Solvers.withVariables();
         for (int v : BAD_VARIABLES) {
             DUE.is("5: variable " + v, solver.range(v, 0, 0), -1);
             DUE.is("5: -1 is ahead of -2", solver.range(v, 1, 0), -1);
@@ -180,18 +134,18 @@ public final class PromisesTest {
         DUE.is("5: both are none", solver.range(0, Integer.MIN_VALUE, Integer.MAX_VALUE), -2);
         DUE.is("5: refusals change nothing", solver.width(0, 1), 4278190082L);
         DUE.is("5: one place", solver.range(0, -1, -1), 1);
-        dueSpan("5: one place", solver, 0, -1, -1, 0);
+        DUE.span("5: one place", solver, 0, -1, -1, 0);
         DUE.is("5: all places", solver.range(1, LOWEST, HIGHEST), 1);
         DUE.is("5: others", solver.range(3, -7, 9), 1);
-        dueSpan("5: others", solver, 3, -7, 9, 0);
-        dueSpan("5: those not told", solver, 2, LOWEST, HIGHEST, 0);
+        DUE.span("5: others", solver, 3, -7, 9, 0);
+        DUE.span("5: those not told", solver, 2, LOWEST, HIGHEST, 0);
         DUE.is("5: a value stays, outside too", solver.value(0), 0);
         DUE.is("5: again wide", solver.range(0, -2, 5), 1);
-        dueSpan("5: again wide", solver, 0, -2, 5, 0);
+        DUE.span("5: again wide", solver, 0, -2, 5, 0);
     }
 
     private static void promise6Set() {
-        FloatSolver solver = withVariables();
+        FloatSolver solver = Solvers.withVariables();
         for (int v : BAD_VARIABLES) {
             DUE.is("6: variable " + v, solver.set(v, 0), -1);
             DUE.is("6: -1 is ahead of -2", solver.set(v, HIGHEST + 1), -1);
@@ -209,7 +163,7 @@ public final class PromisesTest {
         solver.range(0, 5, 6);
         DUE.is("6: outside its range", solver.set(0, 4), 1);
         DUE.is("6: outside its range", solver.value(0), 4);
-        dueSpan("6: the range stays", solver, 0, 5, 6, 0);
+        DUE.span("6: the range stays", solver, 0, 5, 6, 0);
     }
 
     private static void promise7Place() {
@@ -242,15 +196,15 @@ public final class PromisesTest {
 
     private static void dueValue(int kind, float x, float y, float want) {
         FloatSolver solver = new FloatSolver();
-        constant(solver, x);
-        constant(solver, y);
+        Solvers.constant(solver, x);
+        Solvers.constant(solver, y);
         DUE.is("9: kind " + kind + " of " + x + ", " + y, solver.value(solver.node(kind, 0, 1)), bits(want));
     }
 
     private static void promise9Value() {
         float none = Float.NaN;
         float infinity = Float.POSITIVE_INFINITY;
-        FloatSolver solver = withVariables();
+        FloatSolver solver = Solvers.withVariables();
         DUE.is("9: no such node", solver.value(-1), NOTHING);
         DUE.is("9: no such node", solver.value(4), NOTHING);
         DUE.is("9: no such node", solver.value(Integer.MAX_VALUE), NOTHING);
@@ -309,8 +263,8 @@ public final class PromisesTest {
 
     private static void dueHolds(float a, float b, String want) {
         FloatSolver solver = new FloatSolver();
-        constant(solver, a);
-        constant(solver, b);
+        Solvers.constant(solver, a);
+        Solvers.constant(solver, b);
         for (int kind = 0; kind < 6; kind++) {
             int rule = solver.rule(kind, 0, 1);
             DUE.is("10: kind " + kind + " of " + a + ", " + b, solver.holds(rule), want.charAt(kind) - '0');
@@ -318,7 +272,7 @@ public final class PromisesTest {
     }
 
     private static void promise10Holds() {
-        FloatSolver solver = withVariables();
+        FloatSolver solver = Solvers.withVariables();
         solver.rule(0, 0, 1);
         DUE.is("10: no such rule", solver.holds(-1), -1);
         DUE.is("10: no such rule", solver.holds(1), -1);
@@ -339,7 +293,7 @@ public final class PromisesTest {
     }
 
     private static void promise11SpanOfOne() {
-        FloatSolver solver = withVariables();
+        FloatSolver solver = Solvers.withVariables();
         int negative = solver.node(6, 0, 0);
         int size = solver.node(7, 0, 0);
         int down = solver.node(10, 0, 0);
@@ -352,55 +306,55 @@ public final class PromisesTest {
         DUE.is("11: no such thing", solver.span(0, -1), NOTHING);
         DUE.is("11: no such thing", solver.span(0, 4), NOTHING);
         solver.range(0, place(-2.5f), place(1.25f));
-        dueSpan("11: -x", solver, negative, place(-1.25f), place(2.5f), 0);
-        dueSpan("11: x without sign", solver, size, 0, place(2.5f), 0);
-        dueSpan("11: down", solver, down, place(-3f), place(1f), 0);
-        dueSpan("11: up", solver, up, place(-2f), place(2f), 0);
-        dueSpan("11: nearest", solver, nearest, place(-2f), place(1f), 0);
-        dueSpan("11: as an int", solver, asInt, place(-2f), place(1f), 0);
-        dueAll("11: root of one below 0", solver, root);
+        DUE.span("11: -x", solver, negative, place(-1.25f), place(2.5f), 0);
+        DUE.span("11: x without sign", solver, size, 0, place(2.5f), 0);
+        DUE.span("11: down", solver, down, place(-3f), place(1f), 0);
+        DUE.span("11: up", solver, up, place(-2f), place(2f), 0);
+        DUE.span("11: nearest", solver, nearest, place(-2f), place(1f), 0);
+        DUE.span("11: as an int", solver, asInt, place(-2f), place(1f), 0);
+        DUE.all("11: root of one below 0", solver, root);
         solver.range(0, -1, place(4f));
-        dueSpan("11: root from minus zero on", solver, root, -1, place(2f), 0);
+        DUE.span("11: root from minus zero on", solver, root, -1, place(2f), 0);
         solver.range(0, place(-3f), -1);
-        dueSpan("11: x without sign, below 0", solver, size, 0, place(3f), 0);
+        DUE.span("11: x without sign, below 0", solver, size, 0, place(3f), 0);
         solver.range(0, -2, -2);
-        dueAll("11: root of one place below minus zero", solver, root);
+        DUE.all("11: root of one place below minus zero", solver, root);
         solver.range(0, place(2f), place(9f));
-        dueSpan("11: x without sign, above 0", solver, size, place(2f), place(9f), 0);
+        DUE.span("11: x without sign, above 0", solver, size, place(2f), place(9f), 0);
         solver.range(0, place(0.25f), place(0.5f));
-        dueSpan("11: up to one value", solver, up, place(1f), place(1f), 0);
+        DUE.span("11: up to one value", solver, up, place(1f), place(1f), 0);
     }
 
     private static void promise11SpanWithNone() {
-        FloatSolver solver = withVariables();
+        FloatSolver solver = Solvers.withVariables();
         int none = solver.node(0, -1, 0);
-        dueOnlyNone("11: none", solver, none);
+        DUE.onlyNone("11: none", solver, none);
         for (int kind : ALL_KINDS_BUT_LEAVES) {
             int node = solver.node(kind, none, 0);
             if (kind == 13) {
-                dueSpan("11: none as an int", solver, node, 0, 0, 0);
+                DUE.span("11: none as an int", solver, node, 0, 0, 0);
             } else {
-                dueOnlyNone("11: kind " + kind + " of none", solver, node);
+                DUE.onlyNone("11: kind " + kind + " of none", solver, node);
             }
             if (Machine.takesTwo(kind)) {
-                dueOnlyNone("11: kind " + kind + " by none", solver, solver.node(kind, 0, none));
+                DUE.onlyNone("11: kind " + kind + " by none", solver, solver.node(kind, 0, none));
             }
         }
         int all = solver.node(15, 1, 0);
         solver.range(0, place(2f), place(3f));
-        dueSpan("11: the lesser with what may be none", solver, solver.node(8, 0, all), LOWEST, place(3f), 1);
+        DUE.span("11: the lesser with what may be none", solver, solver.node(8, 0, all), LOWEST, place(3f), 1);
         int greater = solver.node(9, all, 0);
-        dueSpan("11: the greater with what may be none", solver, greater, place(2f), HIGHEST, 1);
-        dueSpan("11: 0 is among the ints of what may be none", solver, solver.node(13, greater, 0),
+        DUE.span("11: the greater with what may be none", solver, greater, place(2f), HIGHEST, 1);
+        DUE.span("11: 0 is among the ints of what may be none", solver, solver.node(13, greater, 0),
             0, place(0x1p31f), 0);
         solver.range(3, place(-3f), place(-2f));
-        dueSpan("11: 0 is among the ints of what is below 0 or none", solver,
+        DUE.span("11: 0 is among the ints of what is below 0 or none", solver,
             solver.node(13, solver.node(8, 3, all), 0), place(-0x1p31f), 0, 0);
-        dueSpan("11: sign of what may be none", solver, solver.node(6, greater, 0), LOWEST, place(-2f), 1);
+        DUE.span("11: sign of what may be none", solver, solver.node(6, greater, 0), LOWEST, place(-2f), 1);
     }
 
     private static void promise11SpanOfTwo() {
-        FloatSolver solver = withVariables();
+        FloatSolver solver = Solvers.withVariables();
         int sum = solver.node(2, 0, 1);
         int difference = solver.node(3, 0, 1);
         int product = solver.node(4, 0, 1);
@@ -410,56 +364,56 @@ public final class PromisesTest {
         int rest = solver.node(14, 0, 1);
         solver.range(0, place(-2f), place(3f));
         solver.range(1, place(4f), place(8f));
-        dueSpan("11: sum", solver, sum, place(2f), place(11f), 0);
-        dueSpan("11: difference", solver, difference, place(-10f), place(-1f), 0);
-        dueSpan("11: product", solver, product, place(-16f), place(24f), 0);
-        dueSpan("11: quotient", solver, quotient, place(-0.5f), place(0.75f), 0);
-        dueSpan("11: lesser", solver, lesser, place(-2f), place(3f), 0);
-        dueSpan("11: greater", solver, greater, place(4f), place(8f), 0);
-        dueAll("11: rest", solver, rest);
+        DUE.span("11: sum", solver, sum, place(2f), place(11f), 0);
+        DUE.span("11: difference", solver, difference, place(-10f), place(-1f), 0);
+        DUE.span("11: product", solver, product, place(-16f), place(24f), 0);
+        DUE.span("11: quotient", solver, quotient, place(-0.5f), place(0.75f), 0);
+        DUE.span("11: lesser", solver, lesser, place(-2f), place(3f), 0);
+        DUE.span("11: greater", solver, greater, place(4f), place(8f), 0);
+        DUE.all("11: rest", solver, rest);
         solver.range(1, place(4f), HIGHEST);
-        dueSpan("11: sum up to infinity", solver, sum, place(2f), HIGHEST, 0);
-        dueAll("11: 0 by infinity", solver, product);
-        dueSpan("11: quotient by infinity", solver, quotient, place(-0.5f), place(0.75f), 0);
+        DUE.span("11: sum up to infinity", solver, sum, place(2f), HIGHEST, 0);
+        DUE.all("11: 0 by infinity", solver, product);
+        DUE.span("11: quotient by infinity", solver, quotient, place(-0.5f), place(0.75f), 0);
         solver.range(0, 1, HIGHEST);
-        dueSpan("11: no 0 by infinity", solver, product, place(Float.MIN_VALUE * 4), HIGHEST, 0);
-        dueAll("11: infinity through infinity", solver, quotient);
-        dueAll("11: infinity less infinity", solver, difference);
+        DUE.span("11: no 0 by infinity", solver, product, place(Float.MIN_VALUE * 4), HIGHEST, 0);
+        DUE.all("11: infinity through infinity", solver, quotient);
+        DUE.all("11: infinity less infinity", solver, difference);
         solver.range(0, LOWEST, -1);
-        dueAll("11: sum of infinities", solver, sum);
-        dueAll("11: minus zero by infinity", solver, product);
+        DUE.all("11: sum of infinities", solver, sum);
+        DUE.all("11: minus zero by infinity", solver, product);
         solver.range(0, LOWEST, -2);
-        dueSpan("11: below 0 by infinity", solver, product, LOWEST, place(Float.MIN_VALUE * -4), 0);
+        DUE.span("11: below 0 by infinity", solver, product, LOWEST, place(Float.MIN_VALUE * -4), 0);
         solver.range(0, place(1f), place(2f));
         for (int[] zero : new int[][] {{-1, -1}, {0, 0}, {-1, 5}, {-5, -1}, {0, 5}, {-5, 5}}) {
             solver.range(1, zero[0], zero[1]);
-            dueAll("11: through 0", solver, quotient);
+            DUE.all("11: through 0", solver, quotient);
         }
         solver.range(1, 1, 1);
-        dueSpan("11: through the least one", solver, quotient, HIGHEST, HIGHEST, 0);
+        DUE.span("11: through the least one", solver, quotient, HIGHEST, HIGHEST, 0);
         solver.range(1, LOWEST, LOWEST);
-        dueSpan("11: through infinity", solver, quotient, -1, -1, 0);
+        DUE.span("11: through infinity", solver, quotient, -1, -1, 0);
     }
 
     private static void promise11SpanOfRest() {
-        FloatSolver solver = withVariables();
+        FloatSolver solver = Solvers.withVariables();
         int rest = solver.node(14, 0, 1);
         solver.range(0, place(7f), place(7f));
         solver.range(1, place(4f), place(4f));
-        dueSpan("11: rest at one place", solver, rest, place(3f), place(3f), 0);
+        DUE.span("11: rest at one place", solver, rest, place(3f), place(3f), 0);
         solver.range(1, 0, 0);
-        dueOnlyNone("11: rest that is none", solver, rest);
+        DUE.onlyNone("11: rest that is none", solver, rest);
         solver.range(1, place(4f), place(4f) + 1);
-        dueAll("11: rest by two places", solver, rest);
+        DUE.all("11: rest by two places", solver, rest);
         int mayBeNone = solver.node(8, solver.node(15, 2, 0), 0);
         int onePlace = solver.node(9, mayBeNone, 0);
-        dueSpan("11: one place or none", solver, onePlace, place(7f), place(7f), 1);
-        dueAll("11: rest of one place or none", solver, solver.node(14, onePlace, 0));
-        dueAll("11: rest by one place or none", solver, solver.node(14, 0, onePlace));
+        DUE.span("11: one place or none", solver, onePlace, place(7f), place(7f), 1);
+        DUE.all("11: rest of one place or none", solver, solver.node(14, onePlace, 0));
+        DUE.all("11: rest by one place or none", solver, solver.node(14, 0, onePlace));
     }
 
     private static void dueJudge(String what, int[] x, int[] y, String want) {
-        FloatSolver solver = withVariables();
+        FloatSolver solver = Solvers.withVariables();
         solver.range(0, x[0], x[1]);
         solver.range(1, y[0], y[1]);
         for (int kind = 0; kind < 6; kind++) {
@@ -469,7 +423,7 @@ public final class PromisesTest {
     }
 
     private static void promise12Judge() {
-        FloatSolver solver = withVariables();
+        FloatSolver solver = Solvers.withVariables();
         solver.rule(0, 0, 1);
         DUE.is("12: no such rule", solver.judge(-1), -1);
         DUE.is("12: no such rule", solver.judge(1), -1);
@@ -505,64 +459,64 @@ public final class PromisesTest {
     }
 
     private static void promise13And14WithoutHalving() {
-        FloatSolver solver = withVariables();
+        FloatSolver solver = Solvers.withVariables();
         for (int w : new int[] {0, -1, 5001, Integer.MIN_VALUE, Integer.MAX_VALUE}) {
             DUE.is("13: work " + w, solver.solve(w), -2);
             DUE.is("14: none was solved", solver.solved(0), NOTHING);
         }
         DUE.is("13: no rules", solver.solve(5000), 1);
-        dueSolved("14: no rules", solver, 1, 1, 0);
-        dueSolution("14: no rules", solver, LOWEST, LOWEST, LOWEST, LOWEST);
+        DUE.solved("14: no rules", solver, 1, 1, 0);
+        DUE.solution("14: no rules", solver, LOWEST, LOWEST, LOWEST, LOWEST);
         DUE.is("14: below", solver.solved(-1), NOTHING);
         DUE.is("14: above", solver.solved(7), NOTHING);
         DUE.is("14: far above", solver.solved(Integer.MIN_VALUE), NOTHING);
         solver.range(1, 3, 5);
         DUE.is("14: the latest stays", solver.solved(4), LOWEST);
         DUE.is("13: refused", solver.solve(0), -2);
-        dueSolved("14: refused ones do not count", solver, 1, 1, 0);
+        DUE.solved("14: refused ones do not count", solver, 1, 1, 0);
         solver.solve(1);
-        dueSolution("14: the latest", solver, LOWEST, 3, LOWEST, LOWEST);
+        DUE.solution("14: the latest", solver, LOWEST, 3, LOWEST, LOWEST);
         DUE.is("13: values stay as they were", solver.value(1), 0);
         solver.rule(4, 1, 0);
         DUE.is("13: can not hold", solver.solve(1), 0);
-        dueSolved("14: can not hold", solver, 0, 1, 0);
+        DUE.solved("14: can not hold", solver, 0, 1, 0);
     }
 
     private static void promise13And14Halving() {
-        FloatSolver solver = withVariables();
+        FloatSolver solver = Solvers.withVariables();
         int seven = solver.node(0, 7, 0);
         solver.rule(2, 1, seven);
         solver.range(0, 4, 4);
         solver.range(1, 0, 7);
         // 0..7, 0..3, 4..7, 4..5, 6..7, 6, 7
         DUE.is("13: the last place", solver.solve(7), 1);
-        dueSolved("14: the last place", solver, 1, 7, 3);
-        dueSolution("14: the last place", solver, 4, 7, LOWEST, LOWEST);
+        DUE.solved("14: the last place", solver, 1, 7, 3);
+        DUE.solution("14: the last place", solver, 4, 7, LOWEST, LOWEST);
         DUE.is("13: spent before the last box", solver.solve(6), 2);
-        dueSolved("14: spent before the last box", solver, 2, 6, 3);
+        DUE.solved("14: spent before the last box", solver, 2, 6, 3);
         DUE.is("13: spent at once", solver.solve(1), 2);
-        dueSolved("14: spent at once", solver, 2, 1, 1);
+        DUE.solved("14: spent at once", solver, 2, 1, 1);
         solver.range(1, -3, 6);
         DUE.is("13: none in the first box", solver.solve(1), 0);
-        dueSolved("14: none in the first box", solver, 0, 1, 0);
+        DUE.solved("14: none in the first box", solver, 0, 1, 0);
         solver.noRules();
         solver.rule(1, seven, 1);
         solver.range(1, -8, 9);
         // -8..9: middle 0; 1..9: middle 5; 6..9: middle 7; 6..7: middle 6; 6 given up, 7 holds
         DUE.is("13: the least one", solver.solve(5000), 1);
-        dueSolved("14: the least one", solver, 1, 8, 4);
+        DUE.solved("14: the least one", solver, 1, 8, 4);
         DUE.is("14: the least one", solver.solved(4), 7);
         solver.noRules();
         solver.rule(0, 1, 1);
         solver.range(1, -3, 0);
         // -3..0: middle -2, down; -3..-2 and -1..0; -1..0 can not hold, both being the same
         DUE.is("13: less than itself", solver.solve(5000), 0);
-        dueSolved("14: less than itself", solver, 0, 5, 2);
+        DUE.solved("14: less than itself", solver, 0, 5, 2);
     }
 
     /** The VARIABLE that is halved is the first one that has more PLACES than one, ruled or not. */
     private static void promise13And14Order() {
-        FloatSolver solver = withVariables();
+        FloatSolver solver = Solvers.withVariables();
         solver.rule(2, 2, solver.node(0, 3, 0));
         solver.range(0, 8, 9);
         solver.range(1, 5, 5);
@@ -570,8 +524,8 @@ public final class PromisesTest {
         solver.range(3, -1, 4);
         // all; 0 at 8; then 2 at 2, 2 at 3
         DUE.is("13: first ones first", solver.solve(5000), 1);
-        dueSolved("14: first ones first", solver, 1, 4, 2);
-        dueSolution("14: first ones first", solver, 8, 5, 3, -1);
+        DUE.solved("14: first ones first", solver, 1, 4, 2);
+        DUE.solution("14: first ones first", solver, 8, 5, 3, -1);
         solver.noRules();
         int root = solver.node(15, 0, 0);
         solver.rule(4, root, 0);
@@ -580,35 +534,35 @@ public final class PromisesTest {
         solver.range(3, 6, 6);
         // The SPAN of a root below -1 is ALL even at one PLACE: there its VALUE tells.
         DUE.is("13: true at one place", solver.solve(5000), 1);
-        dueSolved("14: true at one place", solver, 1, 2, 1);
-        dueSolution("14: true at one place", solver, -2, 5, 2, 6);
+        DUE.solved("14: true at one place", solver, 1, 2, 1);
+        DUE.solution("14: true at one place", solver, -2, 5, 2, 6);
         solver.noRules();
         solver.rule(5, root, 0);
         DUE.is("13: untrue at one place", solver.solve(5000), 1);
-        dueSolved("14: untrue at one place", solver, 1, 3, 1);
-        dueSolution("14: untrue at one place", solver, -1, 5, 2, 6);
+        DUE.solved("14: untrue at one place", solver, 1, 3, 1);
+        DUE.solution("14: untrue at one place", solver, -1, 5, 2, 6);
         solver.range(0, -2, -2);
         DUE.is("13: untrue at the only place", solver.solve(5000), 0);
-        dueSolved("14: untrue at the only place", solver, 0, 1, 0);
+        DUE.solved("14: untrue at the only place", solver, 0, 1, 0);
     }
 
     private static void promise13And14Deep() {
-        FloatSolver solver = withVariables();
+        FloatSolver solver = Solvers.withVariables();
         int infinity = solver.node(0, INFINITY, 0);
         int none = solver.node(3, infinity, 3);
         for (int v = 0; v < 4; v++) {
             solver.rule(2, v, infinity);
         }
         DUE.is("13: all at their last place", solver.solve(5000), 1);
-        dueSolution("14: all at their last place", solver, HIGHEST, HIGHEST, HIGHEST, HIGHEST);
+        DUE.solution("14: all at their last place", solver, HIGHEST, HIGHEST, HIGHEST, HIGHEST);
         DUE.isTrue("14: every variable was halved 31 times or more", solver.solved(2) >= 4 * 31);
         solver.noRules();
         solver.rule(4, none, 0);
         DUE.is("13: three variables that no rule names", solver.solve(5000), 1);
-        dueSolution("14: three variables that no rule names", solver, LOWEST, LOWEST, LOWEST, HIGHEST);
+        DUE.solution("14: three variables that no rule names", solver, LOWEST, LOWEST, LOWEST, HIGHEST);
         solver.rule(0, 3, infinity);
         DUE.is("13: spent far down", solver.solve(5000), 2);
-        dueSolved("14: spent far down", solver, 2, 5000, solver.solved(2));
+        DUE.solved("14: spent far down", solver, 2, 5000, solver.solved(2));
     }
 
     private static long widthOrThrown(FloatSolver solver, int v, int n) {
