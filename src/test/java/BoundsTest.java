@@ -398,6 +398,19 @@ public final class BoundsTest {
         }
     }
 
+    private static void longRefusals() {
+        DUE.by("NOTHING stands for all of them where a long is answered.");
+        FloatSolver solver = new FloatSolver();
+        DUE.is("FloatSolver.NOTHING", FloatSolver.NOTHING, Long.MIN_VALUE);
+        DUE.is("place", solver.place(NONE), FloatSolver.NOTHING);
+        DUE.is("bits", solver.bits(NONE), FloatSolver.NOTHING);
+        DUE.is("value", solver.value(0), FloatSolver.NOTHING);
+        DUE.is("span", solver.span(0, 0), FloatSolver.NOTHING);
+        DUE.is("span, both", solver.span(0, 4), FloatSolver.NOTHING);
+        DUE.is("solved", solver.solved(0), FloatSolver.NOTHING);
+        DUE.is("width", width(solver, 4, 1), FloatSolver.NOTHING);
+    }
+
     private static void work() {
         DUE.by("It is SOLVED with WORK w (1 to 5000) .. -2.");
         for (int w : new int[] {0, -1, 5001, Integer.MIN_VALUE, Integer.MAX_VALUE}) {
@@ -483,6 +496,7 @@ public final class BoundsTest {
         settings();
         spansAnswered();
         refusalsInOrder();
+        longRefusals();
         work();
         widths();
         allCallsOfAnObject();

@@ -107,6 +107,7 @@ public final class SpansTest {
         DUE.span("variable 2", solver, 2, -5, 8, 0);
         DUE.span("variable 2 once more", solver, again, -5, 8, 0);
         solver.range(2, -1, -1);
+        DUE.span("one place", solver, 2, -1, -1, 0);
         DUE.span("one place", solver, again, -1, -1, 0);
         DUE.span("another one", solver, 3, LOWEST, HIGHEST, 0);
     }

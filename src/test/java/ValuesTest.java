@@ -279,6 +279,8 @@ public final class ValuesTest {
         DUE.by("14 x % y");
         due(REST, 7f, 4f, 3f);
         due(REST, -7f, 4f, -3f);
+        due(REST, 7f, 3f, 1f);
+        due(REST, 0x1p-125f, 0x1.8p-126f, 0x1p-127f);
         due(REST, 7f, -4f, 3f);
         due(REST, 8f, 4f, 0f);
         due(REST, -8f, 4f, -0f);
