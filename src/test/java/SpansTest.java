@@ -367,6 +367,48 @@ public final class SpansTest {
         }
     }
 
+    /** VARIABLES as NODES 0 to 3, then a NODE of each kind over VARIABLE v and the one behind it. */
+    private static FloatSolver withAllKinds(int v) {
+        FloatSolver solver = Solvers.withVariables();
+        for (int kind = 2; kind < 16; kind++) {
+            solver.node(kind, v, (v + 1) % 4);
+        }
+        solver.range(v, place(2.5f), place(3.5f));
+        solver.range((v + 1) % 4, place(4.5f), place(5.5f));
+        return solver;
+    }
+
+    private static void compareSpans(String what, FloatSolver solver, FloatSolver neverAsked) {
+        for (int node = 0; node < 18; node++) {
+            for (int which = 0; which < 4; which++) {
+                DUE.is(what + ", node " + node, solver.span(node, which), neverAsked.span(node, which));
+            }
+        }
+    }
+
+    private static void rangesAsTheyAre() {
+        DUE.by("in the BOX of all RANGES: as they are by now, whatever was asked or solved before");
+        for (int v = 0; v < 4; v++) {
+            for (int changed = 0; changed < 4; changed++) {
+                FloatSolver solver = withAllKinds(v);
+                compareSpans("at first", solver, withAllKinds(v));
+                solver.range(changed, place(6.5f), place(7.5f));
+                FloatSolver neverAsked = withAllKinds(v);
+                neverAsked.range(changed, place(6.5f), place(7.5f));
+                compareSpans("variable " + changed + " has another range", solver, neverAsked);
+                solver.rule(4, 16, 0);
+                solver.solve(50);
+                compareSpans("after solve", solver, neverAsked);
+            }
+        }
+        FloatSolver early = new FloatSolver();
+        DUE.is("solve() ahead of the first node", early.solve(1), 1);
+        early.node(0, 5, 0);
+        early.node(6, 0, 0);
+        DUE.span("the first node", early, 0, 5, 5, 0);
+        DUE.span("the next one", early, 1, -6, -6, 0);
+    }
+
     /** Digits for kinds 0 to 5 in their order, with x, y NONE perhaps as told. */
     private static void dueJudge(int[] x, boolean xNone, int[] y, boolean yNone, String want) {
         FloatSolver solver = Solvers.withVariables();
@@ -498,6 +540,7 @@ public final class SpansTest {
         quotientsByZero();
         rests();
         boxOfAllRanges();
+        rangesAsTheyAre();
         rulesInBoxes();
         rulesInBoxesWithNone();
         ruleInThatBox();

@@ -118,6 +118,10 @@ public final class ValuesTest {
         due(THROUGH, 1f, 3f, 0x1.555556p-2f);
         due(THROUGH, 2f, 3f, 0x1.555556p-1f);
         due(THROUGH, 1f, 10f, 0x1.99999ap-4f);
+        // By very little above or below the half between two neighbours.
+        due(THROUGH, 0x1.ad4808p-22f, 0x1.4b3564p-75f, 0x1.4bcd9ap53f);
+        due(THROUGH, 0x1.001efp23f, 0x1.003812p23f, 0x1.ffcdc8p-1f);
+        due(THROUGH, 0x1.002ba2p23f, 0x1.003adep23f, 0x1.ffe18ep-1f);
         due(THROUGH, LEAST, 2f, 0f);
         due(THROUGH, -LEAST, 2f, -0f);
         due(THROUGH, 3 * LEAST, 2f, 2 * LEAST);
@@ -216,6 +220,8 @@ public final class ValuesTest {
 
     private static void wholeOnes() {
         DUE.by("10 x rounded down");
+        due(DOWN, 1f, 1f);
+        due(DOWN, -1f, -1f);
         due(DOWN, 1.75f, 1f);
         due(DOWN, -1.25f, -2f);
         due(DOWN, LEAST, 0f);
@@ -228,6 +234,8 @@ public final class ValuesTest {
         due(DOWN, -INFINITY, -INFINITY);
         due(DOWN, NONE, NONE);
         DUE.by("11 up");
+        due(UP, 1f, 1f);
+        due(UP, -1f, -1f);
         due(UP, 1.25f, 2f);
         due(UP, -1.75f, -1f);
         due(UP, LEAST, 1f);
@@ -241,6 +249,7 @@ public final class ValuesTest {
         DUE.by("12 to the nearest whole one (of two the even one)");
         due(NEAREST, 0.5f, 0f);
         due(NEAREST, 0x1.000002p-1f, 1f);
+        due(NEAREST, 1f, 1f);
         due(NEAREST, 1.5f, 2f);
         due(NEAREST, 2.5f, 2f);
         due(NEAREST, -0.5f, -0f);
@@ -256,6 +265,8 @@ public final class ValuesTest {
 
     private static void asInt() {
         DUE.by("13 x as an int (cut toward 0, ..), as a FLOAT");
+        due(AS_INT, 1f, 1f);
+        due(AS_INT, -1f, -1f);
         due(AS_INT, 1.75f, 1f);
         due(AS_INT, -1.75f, -1f);
         due(AS_INT, 0.99f, 0f);
@@ -282,6 +293,9 @@ public final class ValuesTest {
         due(REST, 7f, 3f, 1f);
         due(REST, 0x1p-125f, 0x1.8p-126f, 0x1p-127f);
         due(REST, 7f, -4f, 3f);
+        due(REST, 5f, 5f, 0f);
+        due(REST, -5f, 5f, -0f);
+        due(REST, 5f, -5f, 0f);
         due(REST, 8f, 4f, 0f);
         due(REST, -8f, 4f, -0f);
         due(REST, -0f, 4f, -0f);
@@ -303,6 +317,8 @@ public final class ValuesTest {
         due(ROOT, 4f, 2f);
         due(ROOT, 2f, 0x1.6a09e6p0f);
         due(ROOT, 3f, 0x1.bb67aep0f);
+        due(ROOT, 0x1.4bdf14p10f, 0x1.237a38p5f);
+        due(ROOT, 0x1.51b0cp32f, 0x1.26058ep16f);
         due(ROOT, 0x1.fffffep-1f, 0x1.fffffep-1f);
         due(ROOT, 0x1.000002p0f, 1f);
         due(ROOT, 0x1p-148f, 0x1p-74f);
