@@ -117,6 +117,8 @@ public final class FloatSolver {
         return 1;
     }
 
+    // ---- floats
+
     public long place(int bits) {
         return Floats.isNone(bits) ? NOTHING : Floats.placeOf(bits);
     }
@@ -140,6 +142,8 @@ public final class FloatSolver {
         nodes.evaluate(settings);
         return rules.isTrue(rule, nodes.values) ? 1 : 0;
     }
+
+    // ---- spans
 
     public long span(int node, int what) {
         if (!nodes.has(node)) {
@@ -167,6 +171,8 @@ public final class FloatSolver {
         spans.fill(ranges, rules.restOn(rule, nodes));
         return rules.verdict(rule, spans);
     }
+
+    // ---- solving
 
     public int solve(int w) {
         if (w < 1 || w > WORK_LIMIT) {

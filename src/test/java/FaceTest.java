@@ -5,9 +5,12 @@ import java.lang.reflect.Method;
 import java.lang.reflect.Modifier;
 import java.nio.file.Files;
 import java.nio.file.Path;
+import java.util.ArrayList;
 import java.util.Arrays;
+import java.util.List;
 import java.util.Set;
 import java.util.TreeSet;
+import java.util.regex.Matcher;
 import java.util.regex.Pattern;
 
 /** The public face is the document's and no more; the source keeps clear of what LANGUAGE.md leaves out. */
@@ -29,6 +32,12 @@ public final class FaceTest {
         "public int FloatSolver.solve(int)",
         "public long FloatSolver.solved(int)",
         "public long FloatSolver.width(int,int) throws java.lang.ArithmeticException"));
+    /** Ahead of the calls place, bits, value, holds the interface says: ---- floats. And so on. */
+    private static final List<String> ORDER = List.of(
+        "node", "rule", "noRules", "range", "set",
+        "---- floats", "place", "bits", "value", "holds",
+        "---- spans", "span", "judge",
+        "---- solving", "solve", "solved", "width");
     /** The class needs none of these; each of them stands outside the rules or close to their edge. */
     private static final String[] LEFT_OUT = {
         "\\bfloat\\b", "\\bdouble\\b", "\\bFloat\\.", "\\bDouble\\.", "\\bcatch\\b", "\\bfinally\\b", "\\bsynchronized\\b",
@@ -89,6 +98,23 @@ public final class FaceTest {
         }
     }
 
+    /** What a line of the source is for the reader of the face: a heading, a call's name, or nothing. */
+    private static String lineOfFace(String line) {
+        Matcher heading = Pattern.compile("    // (---- \\w+)").matcher(line);
+        Matcher call = Pattern.compile("    public \\w+ (\\w+)\\(.*").matcher(line);
+        return heading.matches() ? heading.group(1) : call.matches() ? call.group(1) : "";
+    }
+
+    private static void checkHeadings() throws IOException {
+        List<String> found = new ArrayList<>();
+        for (String line : Files.readAllLines(SOURCE)) {
+            if (!lineOfFace(line).isEmpty()) {
+                found.add(lineOfFace(line));
+            }
+        }
+        DUE.isTrue("the calls stand as in the document, under its headings: " + found, found.equals(ORDER));
+    }
+
     private static void checkWords() throws IOException {
         String code = Files.readString(SOURCE).replaceAll("(?s)/\\*.*?\\*/", "").replaceAll("//[^\n]*", "");
         for (String word : LEFT_OUT) {
@@ -105,6 +131,7 @@ public final class FaceTest {
         checkClass();
         checkFields();
         checkMethods();
+        checkHeadings();
         checkWords();
         DUE.end();
     }
